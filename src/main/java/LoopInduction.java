@@ -609,16 +609,13 @@ public final class LoopInduction {
             }
         }
 
+        /** Too deep, nothing takes an opening token, which makes it the fault. */
         private boolean opens(int kind, int depth) {
-            if (faulty || tokens.kindAt(current) != kind) {
-                return false;
+            boolean fits = !faulty && depth < MOST_NESTED && tokens.kindAt(current) == kind;
+            if (fits) {
+                current++;
             }
-            if (depth >= MOST_NESTED) {
-                faulty = true;
-                return false;
-            }
-            current++;
-            return true;
+            return fits;
         }
 
         private void readChoice(int choice) {

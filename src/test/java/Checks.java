@@ -5,6 +5,12 @@ import java.util.Arrays;
 final class Checks {
     private int passed = 0;
     private int failed = 0;
+    private String subject = "";
+
+    /** What the wrong answers that follow are about. */
+    void about(String text) {
+        subject = text;
+    }
 
     void due(String what, long got, long want) {
         if (got == want) {
@@ -12,7 +18,7 @@ final class Checks {
         } else {
             failed++;
             if (failed <= 50) {
-                System.out.println(what + " answered " + got + ", due is " + want);
+                System.out.println(what + " answered " + got + ", due is " + want + (subject.isEmpty() ? "" : ", in: " + subject));
             }
         }
     }

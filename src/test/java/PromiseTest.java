@@ -11,6 +11,7 @@ public final class PromiseTest {
 
     public static void main(String[] args) {
         newObject();
+        noLoop(new LoopInduction());
         feed();
         end();
         text();
@@ -44,6 +45,27 @@ public final class PromiseTest {
         LoopInduction other = Checks.loop(COUNT_UP);
         due("1 objects are apart", x.told(0), -1);
         due("1 other", other.told(0), 1);
+    }
+
+    private static void noLoop(LoopInduction x) {
+        for (int n = -1; n <= 5; n++) {
+            due("6 no loop", x.told(n), -1);
+            due("7 no loop", x.has(0, n), -1);
+            due("8 no loop", x.next(0, n), -1);
+            due("9 no loop", x.rank(n), -1);
+            due("10 no loop", x.many(n), -1);
+            due("11 no loop", x.level(n), -1);
+            due("12 no loop", x.counter(n), -1);
+            due("13 no loop", x.induction(n), -1);
+            due("15 no loop", x.gone(n), -1);
+            due("19 no loop", x.ask(n), -1);
+        }
+        due("14 no loop", x.kept(), -1);
+        due("16 no loop", x.follows(), -1);
+        due("17 no loop", x.falls(), -1);
+        due("18 no loop", x.longest(), -1);
+        due("4 a fault is no loop", Checks.text(x, "begin a=0;"), -2);
+        due("6 still none", x.told(0), -1);
     }
 
     private static void feed() {
@@ -138,6 +160,14 @@ public final class PromiseTest {
         faultAt("^begina=0;");
         faultAt("^Begin a=0;");
         faultAt("^beginX a=0;");
+        faultAt("^beginA a=0;");
+        faultAt("^beginZ a=0;");
+        faultAt("^beginz a=0;");
+        faultAt("begin^@ a=0;");
+        faultAt("begin^` a=0;");
+        faultAt("begin^{ a=0;");
+        faultAt("begin^/");
+        faultAt("begin a=0^:");
         faultAt("begin ^d=0;");
         faultAt("begin ^ab=0;");
         faultAt("begin a^1=0;");
@@ -337,6 +367,8 @@ public final class PromiseTest {
         due("10 pairs are counted once", x.many(5), 4);
         due("10 kept", x.many(6), 512);
         due("10 other", x.many(7), -1);
+        due("10 pairs, a choice that never leads", Checks.loop("begin a=0; when a=1 do a=2; when a=0 do a=1; when a=9 do b=1;"
+            + " goal a=0;").many(5), 512);
         due("10 below", x.many(-1), -1);
         LoopInduction none = Checks.loop("begin 0=1; when a=0 do a=1; goal a=0; rank a;");
         due("10 no begin", none.many(0), 0);
@@ -376,6 +408,10 @@ public final class PromiseTest {
         due("12 the shortest though its first is greater", shorter.counter(0), 1);
         due("12 at once", Checks.loop("begin a=3; when a=0 do a=1; goal a#3;").counter(0), 3);
         due("12 at once only", Checks.loop("begin a=3; when a=0 do a=1; goal a#3;").counter(1), -1);
+        due("12 turns go on from a bad one", Checks.loop("begin a=3; when a=3 do a=1; goal a#3;").counter(1), -1);
+        LoopInduction again = Checks.loop("begin a=0; when a<5 do a=a+1; goal a#5;");
+        Checks.text(again, COUNT_UP);
+        due("12 nothing is left of the loop before", again.counter(0), -1);
         due("12 no such run", Checks.loop(COUNT_UP).counter(0), -1);
         due("12 bad ones that are not reached", Checks.loop(HEAD + "a<4;").counter(0), -1);
     }
@@ -417,6 +453,7 @@ public final class PromiseTest {
         due("15 no such", x.gone(6), -1);
         due("15 below", x.gone(-1), -1);
         due("14 kept", x.kept(), 16);
+        twelveRounds();
         due("14 none", Checks.loop(HEAD + "a=0;").kept(), 0);
         due("15 none", Checks.loop(HEAD + "a=0;").gone(0), -1);
         LoopInduction all = Checks.loop(HEAD + "a=0; " + "guess a<4; ".repeat(12));
@@ -429,6 +466,20 @@ public final class PromiseTest {
         LoopInduction none = Checks.loop("begin 0=1; when a=1 do a=2; goal a=0; guess 0=1; guess a<2;");
         due("14 kept where none begins", none.kept(), 3);
         due("10 none has them", none.many(6), 0);
+    }
+
+    /** Guess g says that a is not g + 1; from a = 13 on it goes down, so that guess 11 goes first, guess 0 last. */
+    private static void twelveRounds() {
+        StringBuilder text = new StringBuilder("begin a=0; when 1<a and a<14 do a=a-1; goal a=0;");
+        for (int g = 0; g < 12; g++) {
+            text.append("guess a#").append(g + 1).append(';');
+        }
+        LoopInduction x = Checks.loop(text.toString());
+        for (int g = 0; g < 12; g++) {
+            due("15 round of " + g, x.gone(g), 12 - g);
+        }
+        due("14 none is left", x.kept(), 0);
+        due("16 none is left", x.follows(), 0);
     }
 
     private static void follows() {
