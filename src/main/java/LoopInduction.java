@@ -558,7 +558,10 @@ public final class LoopInduction {
             readSection(Code.BEGIN);
             expect(';');
             for (choices = 0; choices < MOST_CHOICES && takes(Tokens.WHEN); choices++) {
-                readChoice(choices);
+                readSection(Code.CONDS + choices);
+                expect(Tokens.DO);
+                readAssignments(choices);
+                expect(';');
             }
             if (choices == 0) {
                 faulty = true;
@@ -618,15 +621,12 @@ public final class LoopInduction {
             return fits;
         }
 
-        private void readChoice(int choice) {
-            readSection(Code.CONDS + choice);
-            expect(Tokens.DO);
+        private void readAssignments(int choice) {
             readAssignment(choice);
             // one more than there are variables, for it must be read to be refused
             for (int n = 0; n < VARIABLES && takes(','); n++) {
                 readAssignment(choice);
             }
-            expect(';');
         }
 
         private void readAssignment(int choice) {
