@@ -5,6 +5,7 @@ import java.util.Arrays;
 final class Checks {
     private int passed = 0;
     private int failed = 0;
+    private int sentences = 0;
     private String subject = "";
 
     /** What the wrong answers that follow are about. */
@@ -18,13 +19,46 @@ final class Checks {
         } else {
             failed++;
             if (failed <= 50) {
-                System.out.println(what + " answered " + got + ", due is " + want + (subject.isEmpty() ? "" : ", in: " + subject));
+                System.out.println(what + " answered " + got + ", due is " + want + (subject.isEmpty() ? "" : ", of: " + subject));
             }
         }
     }
 
+    /** A sentence of the document, with the checks that are its own; it must have at least one. */
+    void sentence(String words, Runnable checks) {
+        int before = passed + failed;
+        about(words);
+        sentences++;
+        try {
+            checks.run();
+        } catch (RuntimeException thrown) {
+            due("no exception, but " + thrown, 1, 0);
+        }
+        due("checks of its own", passed + failed > before ? 1 : 0, 1);
+        about("");
+    }
+
+    /** The text must be refused with its fault where the mark ^ stands; the mark is taken out. */
+    void faultAt(String marked) {
+        int place = marked.indexOf('^');
+        fault(marked.substring(0, place) + marked.substring(place + 1), place);
+    }
+
+    void fault(String text, int place) {
+        LoopInduction x = new LoopInduction();
+        due("fault of: " + text, text(x, text), -2);
+        due("place in: " + text, x.place(), place);
+    }
+
+    void good(String text) {
+        LoopInduction x = new LoopInduction();
+        due("good: " + text, text(x, text), 1);
+        due("no place in: " + text, x.place(), -1);
+    }
+
     void finish(String name) {
-        System.out.println(name + ": " + passed + " passed, " + failed + " failed");
+        String read = sentences > 0 ? sentences + " sentences, " : "";
+        System.out.println(name + ": " + read + passed + " passed, " + failed + " failed");
         if (failed != 0) {
             System.exit(1);
         }

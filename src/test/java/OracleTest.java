@@ -2,7 +2,10 @@ import java.util.BitSet;
 import java.util.List;
 import java.util.Random;
 
-/** Random loops, whole ones and broken ones, answered by the program and by the oracle. */
+/**
+ * Random loops, whole ones and broken ones, answered by the program and by the oracle. An object gets far more than 512
+ * calls here, which the document leaves free: it is this program's own way to answer them alike.
+ */
 public final class OracleTest {
     private static final Checks CHECKS = new Checks();
     private static final Random RANDOM = new Random(20261115);
